@@ -19,6 +19,9 @@ public final class LiveCellsTest {
                 24, 22, 19, 19, 17, 14, 14, 14, 11, 11, 4, 4, 0);
         // An IF without a second branch returns NIL, and the environment of its test stays.
         traces("(if ((lambda (x) nil) 5) 1) ", 18, 14, 12, 9, 9, 9, 6, 6, 4, 0);
+        // A frame DEFINE does not hold the environment, so it is gone while k's body is evaluated.
+        goesOn(new Trial(100).gives("(define k (lambda () 5)) ", "k"), "((lambda (x) (define a (k))) '(1 2)) ",
+                31, 29, 26, 26, 22, 19, 13, 11, 11, 3, 3, 3, 3);
         countsWhatIsDefined();
         countsSharedCellsOnce();
         countsRoundWays();
@@ -27,8 +30,11 @@ public final class LiveCellsTest {
     }
 
     private static void traces(String text, int... cells) {
-        Trial trial = new Trial(100).feed(text);
-        Trial.due("cells before " + text, trial.lisp.liveCells(), 0);
+        goesOn(new Trial(100), text, cells);
+    }
+
+    private static void goesOn(Trial trial, String text, int... cells) {
+        trial.feed(text);
         for (int i = 0; i < cells.length; i++) {
             boolean last = i == cells.length - 1;
             Trial.due("step of " + text, trial.lisp.run(1), last ? CellLisp.DONE : CellLisp.MORE);

@@ -35,6 +35,11 @@ public final class NewObjectTest {
         Trial trial = new Trial(size);
         trial.gives("(define a ()) ", "a");
         int kept = 0;
+        if (cells % 2 == 0) {
+            // A closure has 3 cells: without it, pairs alone could not tell this room from one cell more.
+            trial.gives("(define f (lambda () 1)) ", "f");
+            kept = 3;
+        }
         // The form has 6 pairs; what its evaluation holds later on is less than that.
         while (kept + 12 <= cells) {
             trial.gives("(define a (cons 1 a)) ", "a");

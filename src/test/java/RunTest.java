@@ -121,7 +121,6 @@ public final class RunTest {
         trial.gives("(+ 268435455 1) ", "-268435456").gives("(- -268435456 1) ", "268435455");
         trial.gives("(- 0 -268435456) ", "-268435456").gives("(* 268435455 268435455) ", "1");
         trial.gives("(* -268435456 -268435456) ", "0").gives("(* -268435456 -1) ", "-268435456");
-        // 99999999 * 99999999 = 9999999800000001, and this is 144703489 modulo 536870912
         trial.gives("(* 99999999 99999999) ", Long.toString(wrapped(99999999L * 99999999L)));
         trial.gives("(* 12345 -67890) ", Long.toString(wrapped(12345L * -67890L)));
         trial.gives("(< 1 2) ", "t").gives("(< 2 2) ", "()").gives("(< 3 2) ", "()").gives("(< -1 0) ", "t");
@@ -252,15 +251,16 @@ public final class RunTest {
         // The values and list are 5 pairs, what list makes 4.
         trial.gives("(list 1 2 3 4) ", "(1 2 3 4)").fails("(list 1 2 3 4 5) ", CellLisp.ROOM);
         trial.gives("(list 1 2 3 4) ", "(1 2 3 4)");
-        // The closure with its list and body is 9 cells, the values 6, two bindings 8.
-        trial.fails("((lambda (x y) (x y)) 1 2) ", CellLisp.ROOM);
-        Trial closure = new Trial(23);
-        closure.fails("((lambda (x y) 1) 1 ((lambda () 2))) ", CellLisp.ROOM);
+        // When it is applied: three values kept, the closure and its list, and two bindings.
+        String call = "((lambda (x y) 1) 1 2) ";
+        new Trial(20).fails(call, CellLisp.ROOM);
+        new Trial(21).gives(call, "1");
         // A wrong call is found before its cells are asked for.
         trial.fails("(cons 1 2 3 4 5 6 7 8 9) ", CellLisp.COUNT);
-        // One value more than there is room for.
+        // A list of 5 pairs is kept, so that 10 cells are left.
         trial.gives("(define a '(1 2 3 4 5)) ", "a");
-        trial.fails("(+ a 1 2) ", CellLisp.COUNT).fails("(+ a '(1)) ", CellLisp.ROOM);
+        trial.fails("(+ a 1 2 3) ", CellLisp.COUNT).fails("(+ a '(1)) ", CellLisp.ROOM);
+        trial.gives("(cons 1 a) ", "(1 1 2 3 4 5)").fails("(list 1 2 3) ", CellLisp.ROOM);
         Trial.due("cells", trial.lisp.liveCells(), 10);
     }
 }
