@@ -1,7 +1,14 @@
+import java.io.IOException;
+import java.nio.file.Files;
+import java.nio.file.Path;
+
 /** One object under test, fed with plain texts, and the count of the answers that are not as due. */
 final class Trial {
+    private static final String DOCUMENT = document();
     private static int asked = 0;
     private static int wrong = 0;
+    private static int sentences = 0;
+    private static String about = "";
 
     final CellLisp lisp;
 
@@ -16,6 +23,19 @@ final class Trial {
             due("feed of " + piece, lisp.feed(word(piece), piece.length()), true);
         }
         return this;
+    }
+
+    /** An object of which so many characters wait to be taken: numbers and 10s, which are never 1 alone. */
+    static Trial withWaiting(int characters) {
+        Trial trial = new Trial(400);
+        int left = characters;
+        while (left > 0) {
+            int digits = left > 11 ? 9 : left == 11 ? 4 : left - 1;
+            trial.feed("123456789".substring(0, digits) + " ");
+            due("run", trial.lisp.run(3), CellLisp.DONE);
+            left -= digits + 1;
+        }
+        return trial;
     }
 
     /** The characters as the bytes of one word, the first one highest. */
@@ -70,16 +90,40 @@ final class Trial {
         return this;
     }
 
+    /**
+     * Names the promise and the sentence of the document that the next answers are due by. The sentence
+     * must stand in the document, so that a test does not outlive the words that it is about.
+     */
+    static void about(String promise, String sentence) {
+        about = promise + ", \"" + sentence + "\"\n    ";
+        sentences++;
+        due("the document has the sentence", DOCUMENT.isEmpty() || DOCUMENT.contains(flat(sentence)), true);
+    }
+
+    private static String document() {
+        Path path = Path.of(System.getProperty("document", "../shared/DOC.md"));
+        try {
+            return Files.exists(path) ? flat(Files.readString(path)) : "";
+        } catch (IOException unreadable) {
+            return "";
+        }
+    }
+
+    private static String flat(String words) {
+        return words.replaceAll("\\s+", " ").trim();
+    }
+
     static void due(String call, Object got, Object want) {
         asked++;
         if (!got.equals(want)) {
             wrong++;
-            System.out.println(call + " answered " + got + ", due is " + want);
+            System.out.println(about + call + " answered " + got + ", due is " + want);
         }
     }
 
     static void end() {
-        System.out.println(asked + " answers, " + wrong + " not as due");
+        String of = sentences == 0 ? "" : " about " + sentences + " sentences";
+        System.out.println(asked + " answers" + of + ", " + wrong + " not as due");
         if (wrong != 0) {
             System.exit(1);
         }
