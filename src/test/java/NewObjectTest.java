@@ -40,11 +40,18 @@ public final class NewObjectTest {
             trial.gives("(define f (lambda () 1)) ", "f");
             kept = 3;
         }
+        // A large room is filled by lists first, as an object is used for 512 calls at most.
+        for (int i = 0; kept + 102 <= cells; i++) {
+            trial.gives("(define l" + i + " '" + ones(45).trim() + ") ", "l" + i);
+            kept += 90;
+        }
         // The form has 6 pairs; what its evaluation holds later on is less than that.
         while (kept + 12 <= cells) {
             trial.gives("(define a (cons 1 a)) ", "a");
             kept += 2;
-            Trial.due("liveCells", trial.lisp.liveCells(), kept);
+            if (kept + 20 > cells) {
+                Trial.due("liveCells", trial.lisp.liveCells(), kept);
+            }
         }
         trial.fails("(define a (cons 1 a)) ", CellLisp.ROOM);
         Trial.due("liveCells", trial.lisp.liveCells(), kept);

@@ -3,8 +3,6 @@ public final class OutTest {
     public static void main(String[] args) {
         tellsWhatWaits();
         printsValues();
-        printsAtMost16Parentheses();
-        printsAtMost40Things();
         keepsAtMost200();
         endsWithSharedPairs();
         Trial.end();
@@ -51,42 +49,6 @@ public final class OutTest {
         trial.gives("(cons (cons 1 2) (cons 3 car)) ", "((1 . 2) 3 . car)");
         trial.gives("(cons () (lambda () 1)) ", "(() . <fn>)").gives("'(() (())) ", "(() (()))");
         trial.gives("'(quote x) ", "(quote x)").gives("'('x) ", "((quote x))").gives("'(1 -2) ", "(1 -2)");
-    }
-
-    private static void printsAtMost16Parentheses() {
-        Trial trial = new Trial(400);
-        trial.gives("(define a 7) ", "a");
-        for (int depth = 1; depth <= 20; depth++) {
-            trial.gives("(define a (list a)) ", "a");
-            int shown = Math.min(depth, 16);
-            String inner = depth > 16 ? "..." : "7";
-            trial.gives("a ", "(".repeat(shown) + inner + ")".repeat(shown));
-        }
-        trial.gives("(define a ()) ", "a");
-        for (int depth = 1; depth <= 16; depth++) {
-            trial.gives("(define a (list a 1)) ", "a");
-        }
-        trial.gives("a ", "(".repeat(16) + "()" + " 1)".repeat(16));
-        trial.gives("(define a '((1) 2 (3))) ", "a");
-        for (int depth = 1; depth <= 15; depth++) {
-            trial.gives("(define a (cons a 5)) ", "a");
-        }
-        trial.gives("a ", "(".repeat(16) + "... 2 ...)" + " . 5)".repeat(15));
-    }
-
-    private static void printsAtMost40Things() {
-        Trial trial = new Trial(400);
-        for (int n = 38; n <= 50; n++) {
-            String ones = "1" + " 1".repeat(Math.min(n, 40) - 1);
-            trial.gives("(list" + " 1".repeat(n) + ")", "(" + ones + (n > 40 ? " ...)" : ")"));
-        }
-        trial.gives("(define a 7) ", "a");
-        for (int n = 1; n <= 42; n++) {
-            trial.gives("(define a (cons 1 a)) ", "a");
-            String ones = "1" + " 1".repeat(Math.min(n, 40) - 1);
-            trial.gives("a ", "(" + ones + (n > 40 ? " ...)" : " . 7)"));
-        }
-        trial.gives("(list a 2) ", "((1" + " 1".repeat(39) + " ...) 2)");
     }
 
     private static void keepsAtMost200() {

@@ -21,14 +21,15 @@ public final class PrintBoundaryTest {
 
     private static void numbers() {
         Trial.about("Promise 3 (Terms)", PRINTED);
-        Trial trial = new Trial(60).gives("0 ", "0").gives("-0 ", "0");
         int[] units = {1, 10, 100, 1000, 10000, 100000, 1000000, 10000000, 100000000};
         for (int unit : units) {
+            Trial each = new Trial(60);
             for (int number = unit - 1; number <= unit + 1; number++) {
-                trial.gives(number + " ", Integer.toString(number));
-                trial.gives("(- 0 " + number + ")", Integer.toString(-number));
+                each.gives(number + " ", Integer.toString(number));
+                each.gives("(- 0 " + number + ")", Integer.toString(-number));
             }
         }
+        Trial trial = new Trial(60).gives("0 ", "0").gives("-0 ", "0");
         trial.gives("268435455 ", "268435455").gives("-268435456 ", "-268435456").gives("-268435455 ", "-268435455");
         trial.gives("909090909 ", "-164650915").gives("200000002 ", "200000002").gives("'(1 -1 0)", "(1 -1 0)");
     }
@@ -53,10 +54,11 @@ public final class PrintBoundaryTest {
         String[] last = {"0", "-1", "'x", "car", "(lambda () 1)"};
         String[] printed = {"0", "-1", "x", "car", "<fn>"};
         for (int i = 0; i < last.length; i++) {
-            trial.gives("(cons 1 " + last[i] + ")", "(1 . " + printed[i] + ")");
-            trial.gives("(cons 1 (cons 2 " + last[i] + "))", "(1 2 . " + printed[i] + ")");
-            trial.gives("(cons (cons 1 " + last[i] + ") ())", "((1 . " + printed[i] + "))");
-            trial.gives("(cons () " + last[i] + ")", "(() . " + printed[i] + ")");
+            Trial each = new Trial(100);
+            each.gives("(cons 1 " + last[i] + ")", "(1 . " + printed[i] + ")");
+            each.gives("(cons 1 (cons 2 " + last[i] + "))", "(1 2 . " + printed[i] + ")");
+            each.gives("(cons (cons 1 " + last[i] + ") ())", "((1 . " + printed[i] + "))");
+            each.gives("(cons () " + last[i] + ")", "(() . " + printed[i] + ")");
         }
     }
 
@@ -119,9 +121,10 @@ public final class PrintBoundaryTest {
 
     private static final String DEEP = "A pair that would stand within 16 parentheses already is printed as ... ;";
 
-    /** Lists of which each has the one before it as its only thing, so many times. */
-    private static Trial nesting() {
-        return new Trial(400).gives("(define f (lambda (n x) (if (< n 1) x (f (- n 1) (list x)))))", "f");
+    /** In the form, (f n x) is x within so many lists of one thing each. */
+    private static void nested(String form, String printed) {
+        Trial trial = new Trial(400).gives("(define f (lambda (n x) (if (< n 1) x (f (- n 1) (list x)))))", "f");
+        trial.gives(form, printed);
     }
 
     private static void mostParentheses() {
@@ -129,36 +132,36 @@ public final class PrintBoundaryTest {
         for (int depth = 0; depth <= 19; depth++) {
             int shown = Math.min(16, depth);
             String around = "(".repeat(shown) + "%s" + ")".repeat(shown);
-            Trial trial = nesting();
-            trial.gives("(f " + depth + " 7)", String.format(around, depth > 16 ? "..." : "7"));
-            trial.gives("(f " + depth + " '(7))", String.format(around, depth > 15 ? "..." : "(7)"));
-            trial.gives("(f " + depth + " '(1 2))", String.format(around, depth > 15 ? "..." : "(1 2)"));
-            trial.gives("(f " + depth + " (cons 1 2))", String.format(around, depth > 15 ? "..." : "(1 . 2)"));
+            nested("(f " + depth + " 7)", String.format(around, depth > 16 ? "..." : "7"));
+            nested("(f " + depth + " '(7))", String.format(around, depth > 15 ? "..." : "(7)"));
+            nested("(f " + depth + " '(1 2))", String.format(around, depth > 15 ? "..." : "(1 2)"));
+            nested("(f " + depth + " (cons 1 2))", String.format(around, depth > 15 ? "..." : "(1 . 2)"));
         }
     }
 
     private static void otherThingsWithin16() {
         Trial.about("Promise 3 (Terms)", DEEP);
         String around = "(".repeat(15) + "%s" + ")".repeat(15);
-        Trial trial = nesting();
         // The list within 15 is the 16th: what is no pair is printed in it, and so is a point.
-        trial.gives("(f 15 '(1 () x (2) 3 (4) (())))", String.format(around, "(1 () x ... 3 ... ...)"));
-        trial.gives("(f 15 (cons '(1) 2))", String.format(around, "(... . 2)"));
-        trial.gives("(f 15 (list car (lambda () 1) ()))", String.format(around, "(car <fn> ())"));
-        trial.gives("(f 16 ())", String.format(around, "(())"));
-        trial.gives("(f 16 car)", String.format(around, "(car)")).gives("(f 16 (lambda () 1))", String.format(around, "(<fn>)"));
+        nested("(f 15 '(1 () x (2) 3 (4) (())))", String.format(around, "(1 () x ... 3 ... ...)"));
+        nested("(f 15 (cons '(1) 2))", String.format(around, "(... . 2)"));
+        nested("(f 15 (list car (lambda () 1) ()))", String.format(around, "(car <fn> ())"));
+        nested("(f 16 ())", String.format(around, "(())"));
+        nested("(f 16 car)", String.format(around, "(car)"));
+        nested("(f 16 (lambda () 1))", String.format(around, "(<fn>)"));
         // Those that are closed again do not count.
-        trial.gives("(list (f 14 1) (f 15 2))", "(" + "(".repeat(14) + "1" + ")".repeat(14) + " " + String.format(around, "2") + ")");
-        trial.gives("(list (f 16 1) 2)", "(" + String.format(around, "...") + " 2)");
+        nested("(list (f 14 1) (f 15 2))", "(" + "(".repeat(14) + "1" + ")".repeat(14) + " " + String.format(around, "2") + ")");
+        nested("(list (f 16 1) 2)", "(" + String.format(around, "...") + " 2)");
     }
 
     // ---- at most 40 things
 
     private static final String LONG = "if pairs come behind 40 things of a list, a blank, ... and the parenthesis follow these.";
 
-    /** So many 1s before the last CDR. */
-    private static Trial lengthening() {
-        return new Trial(400).gives("(define f (lambda (n x) (if (< n 1) x (f (- n 1) (cons 1 x)))))", "f");
+    /** In the form, (f n x) is x behind so many 1s. */
+    private static void behind(String form, String printed) {
+        Trial trial = new Trial(400).gives("(define f (lambda (n x) (if (< n 1) x (f (- n 1) (cons 1 x)))))", "f");
+        trial.gives(form, printed);
     }
 
     private static String ones(int n) {
@@ -167,32 +170,32 @@ public final class PrintBoundaryTest {
 
     private static void mostThings() {
         Trial.about("Promise 3 (Terms)", LONG);
-        Trial trial = lengthening();
         for (int n = 38; n <= 43; n++) {
-            trial.gives("(f " + n + " ())", n <= 40 ? "(" + ones(n) + ")" : "(" + ones(40) + " ...)");
+            behind("(f " + n + " ())", n <= 40 ? "(" + ones(n) + ")" : "(" + ones(40) + " ...)");
         }
-        trial.gives("(f 80 ())", "(" + ones(40) + " ...)");
-        trial.gives("(f 39 '(x))", "(" + ones(39) + " x)").gives("(f 40 '(x))", "(" + ones(40) + " ...)");
+        behind("(f 80 ())", "(" + ones(40) + " ...)");
+        behind("(f 39 '(x))", "(" + ones(39) + " x)");
+        behind("(f 40 '(x))", "(" + ones(40) + " ...)");
         // The 40th thing is itself a pair.
-        trial.gives("(f 39 '((x y)))", "(" + ones(39) + " (x y))").gives("(f 39 '((x) y))", "(" + ones(39) + " (x) ...)");
-        trial.gives("(f 40 '((x)))", "(" + ones(40) + " ...)");
+        behind("(f 39 '((x y)))", "(" + ones(39) + " (x y))");
+        behind("(f 39 '((x) y))", "(" + ones(39) + " (x) ...)");
+        behind("(f 40 '((x)))", "(" + ones(40) + " ...)");
     }
 
     private static void mostThingsBeforeAPoint() {
         Trial.about("Promise 3 (Terms)", LONG);
-        Trial trial = lengthening();
         for (int n = 38; n <= 42; n++) {
-            trial.gives("(f " + n + " 7)", n <= 40 ? "(" + ones(n) + " . 7)" : "(" + ones(40) + " ...)");
-            trial.gives("(f " + n + " car)", n <= 40 ? "(" + ones(n) + " . car)" : "(" + ones(40) + " ...)");
+            behind("(f " + n + " 7)", n <= 40 ? "(" + ones(n) + " . 7)" : "(" + ones(40) + " ...)");
+            behind("(f " + n + " car)", n <= 40 ? "(" + ones(n) + " . car)" : "(" + ones(40) + " ...)");
         }
     }
 
     private static void mostThingsOfEachList() {
         Trial.about("Promise 3 (Terms)", LONG);
-        Trial trial = lengthening();
-        trial.gives("(list (f 40 ()) 2)", "((" + ones(40) + ") 2)").gives("(list (f 41 ()) 2)", "((" + ones(40) + " ...) 2)");
-        trial.gives("(list (f 40 ()) (f 41 ()))", "((" + ones(40) + ") (" + ones(40) + " ...))");
-        trial.gives("(f 39 (list (f 41 ())))", "(" + ones(39) + " (" + ones(40) + " ...))");
-        trial.gives("(f 41 (list (f 41 ())))", "(" + ones(40) + " ...)");
+        behind("(list (f 40 ()) 2)", "((" + ones(40) + ") 2)");
+        behind("(list (f 41 ()) 2)", "((" + ones(40) + " ...) 2)");
+        behind("(list (f 40 ()) (f 41 ()))", "((" + ones(40) + ") (" + ones(40) + " ...))");
+        behind("(f 39 (list (f 41 ())))", "(" + ones(39) + " (" + ones(40) + " ...))");
+        behind("(f 41 (list (f 41 ())))", "(" + ones(40) + " ...)");
     }
 }

@@ -3,6 +3,7 @@ public final class RoomBoundaryTest {
     public static void main(String[] args) {
         cellsOfValues();
         cellsInUse();
+        cellsInUseByEachGlobal();
         cellsInUseThatAreShared();
         readingAsks();
         readingKnowsItsSymbols();
@@ -88,6 +89,25 @@ public final class RoomBoundaryTest {
         // f: 3 cells, its body 5 pairs; its environment 2 pairs, and y's list.
         String f = "(define f ((lambda (y) (lambda () (if (car y) 5))) '(1)))";
         traces(f, "(f) ", 21, 19, 19, 19, 19, 19, 19, 21, 21, 19, 19, 19, 19);
+    }
+
+    private static void cellsInUseByEachGlobal() {
+        Trial.about("Promise 7 (Terms)", IN_USE);
+        // Of the first symbol, the 16th, the first new one, and the 40th: 2 cells for each.
+        String names = "a1 a2 a3 a4 a5 a6 a7 a8 a9 b1 b2 b3 b4 b5 b6 b7 b8 b9 c1 c2 c3 c4 c5 c6";
+        Trial trial = new Trial(100).gives("'(" + names + ")", "(" + names + ")");
+        Trial.due("symbols", trial.lisp.count(2), 40);
+        String[] defined = {"+", "t", "a1", "c6"};
+        for (int i = 0; i < defined.length; i++) {
+            trial.gives("(define " + defined[i] + " '(" + i + "))", defined[i]);
+            Trial.due("liveCells", trial.lisp.liveCells(), 2 * i + 2);
+        }
+        // They are still there when others have asked for the rest of the room.
+        trial.gives("(atom? '(1 2 3 4 5 6 7 8 9 10 11 12 13 14 15 16 17 18 19 20 21 22 23 24 25 26 27 28 29 30))", "()");
+        for (int i = 0; i < defined.length; i++) {
+            trial.gives(defined[i] + " ", "(" + i + ")").gives("(define " + defined[i] + " 1)", defined[i]);
+            Trial.due("liveCells", trial.lisp.liveCells(), 6 - 2 * i);
+        }
     }
 
     private static void cellsInUseThatAreShared() {

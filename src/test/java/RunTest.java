@@ -207,43 +207,6 @@ public final class RunTest {
         trial.gives("(define f (lambda (n) (if (< n 1) 0 (+ 1 (f (- n 1)))))) ", "f");
         // A call within n others holds n frames; (< n 1) in its IF needs two more, (- n 1) too.
         trial.gives("(f 28) ", "28").fails("(f 29) ", CellLisp.STACK);
-        trial.feed("(f 40) ");
-        int most = 0;
-        int answer = CellLisp.MORE;
-        for (int i = 0; i < 1000 && answer == CellLisp.MORE; i++) {
-            answer = trial.lisp.run(1);
-            most = Math.max(most, trial.lisp.count(1));
-        }
-        Trial.due("error", answer, CellLisp.STACK);
-        Trial.due("most frames", most, 30);
-        Trial.due("frames", trial.lisp.count(1), 0);
-        String[] faults = {"(quote)", "(if)", "(lambda 5 1)", "(define 5 1)", "(set! 5 1)"};
-        for (String form : faults) {
-            withThirtyFrames(form, CellLisp.FORM);
-        }
-        String[] frames = {"(if 1 2)", "(define x 1)", "(set! t 1)", "(list)", "(undef)"};
-        for (String form : frames) {
-            withThirtyFrames(form, CellLisp.STACK);
-        }
-        withThirtyFrames("undef", CellLisp.UNBOUND);
-        withThirtyFrames("'x", CellLisp.DONE);
-        withThirtyFrames("(lambda () 1)", CellLisp.DONE);
-    }
-
-    /** 4 times 7 frames IF, one around them, and one around the form. */
-    private static void withThirtyFrames(String form, int want) {
-        Trial trial = new Trial(400);
-        trial.gives("(define a (lambda () (if " + form + " 1))) ", "a");
-        String caller = "a";
-        for (int i = 0; i < 4; i++) {
-            String name = "k" + i;
-            String body = "(if (if (if (if (if (if (if (" + caller + ") 1) 1) 1) 1) 1) 1) 1)";
-            trial.gives("(define " + name + " (lambda () " + body + ")) ", name);
-            caller = name;
-        }
-        trial.feed("(if (k3) 1) ");
-        Trial.due("end of " + form, trial.runToEnd(), want);
-        Trial.due("print of " + form, trial.taken(), want == CellLisp.DONE ? "1\n" : "");
     }
 
     private static void asksForCells() {

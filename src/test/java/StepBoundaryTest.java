@@ -45,51 +45,50 @@ public final class StepBoundaryTest {
 
     private static void range() {
         about(RANGE);
-        Trial trial = new Trial(60);
-        gives(trial, "+", "268435454", "1", MOST);
-        gives(trial, "+", MOST, "0", MOST);
-        gives(trial, "+", MOST, "1", LEAST);
-        gives(trial, "+", MOST, "2", "-268435455");
-        gives(trial, "+", MOST, MOST, "-2");
-        gives(trial, "+", LEAST, "-1", MOST);
-        gives(trial, "+", LEAST, LEAST, "0");
-        gives(trial, "+", LEAST, MOST, "-1");
-        gives(trial, "-", "-268435455", "1", LEAST);
-        gives(trial, "-", LEAST, "0", LEAST);
-        gives(trial, "-", LEAST, "1", MOST);
-        gives(trial, "-", LEAST, "2", "268435454");
-        gives(trial, "-", MOST, "-1", LEAST);
-        gives(trial, "-", "0", LEAST, LEAST);
-        gives(trial, "-", "0", MOST, "-268435455");
-        gives(trial, "-", "-1", LEAST, MOST);
-        gives(trial, "-", LEAST, MOST, "1");
-        gives(trial, "-", MOST, LEAST, "-1");
-        gives(trial, "-", "1", "1", "0");
+        gives("+", "268435454", "1", MOST);
+        gives("+", MOST, "0", MOST);
+        gives("+", MOST, "1", LEAST);
+        gives("+", MOST, "2", "-268435455");
+        gives("+", MOST, MOST, "-2");
+        gives("+", LEAST, "-1", MOST);
+        gives("+", LEAST, LEAST, "0");
+        gives("+", LEAST, MOST, "-1");
+        gives("-", "-268435455", "1", LEAST);
+        gives("-", LEAST, "0", LEAST);
+        gives("-", LEAST, "1", MOST);
+        gives("-", LEAST, "2", "268435454");
+        gives("-", MOST, "-1", LEAST);
+        gives("-", "0", LEAST, LEAST);
+        gives("-", "0", MOST, "-268435455");
+        gives("-", "-1", LEAST, MOST);
+        gives("-", LEAST, MOST, "1");
+        gives("-", MOST, LEAST, "-1");
+        gives("-", "1", "1", "0");
     }
 
     private static void products() {
         about(RANGE);
-        Trial trial = new Trial(60);
-        gives(trial, "*", "16384", "16383", "268419072");
-        gives(trial, "*", "16384", "16384", LEAST);
-        gives(trial, "*", "16384", "-16384", LEAST);
-        gives(trial, "*", "16385", "-16384", "268419072");
-        gives(trial, "*", "23170", "23170", "-22012");
-        gives(trial, "*", "23171", "23171", "24329");
-        gives(trial, "*", "46341", "46341", "4633");
-        gives(trial, "*", "65536", "65536", "0");
-        gives(trial, "*", MOST, MOST, "1");
-        gives(trial, "*", MOST, "-1", "-268435455");
-        gives(trial, "*", MOST, "2", "-2");
-        gives(trial, "*", LEAST, "1", LEAST);
-        gives(trial, "*", LEAST, "-1", LEAST);
-        gives(trial, "*", LEAST, "2", "0");
-        gives(trial, "*", LEAST, LEAST, "0");
-        gives(trial, "*", LEAST, MOST, LEAST);
-        gives(trial, "*", "0", LEAST, "0");
+        gives("*", "16384", "16383", "268419072");
+        gives("*", "16384", "16384", LEAST);
+        gives("*", "16384", "-16384", LEAST);
+        gives("*", "16385", "-16384", "268419072");
+        gives("*", "23170", "23170", "-22012");
+        gives("*", "23171", "23171", "24329");
+        gives("*", "46341", "46341", "4633");
+        gives("*", "65536", "65536", "0");
+        gives("*", MOST, MOST, "1");
+        gives("*", MOST, "-1", "-268435455");
+        gives("*", MOST, "2", "-2");
+        gives("*", LEAST, "1", LEAST);
+        gives("*", LEAST, "-1", LEAST);
+        gives("*", LEAST, "2", "0");
+        gives("*", LEAST, LEAST, "0");
+        gives("*", LEAST, MOST, LEAST);
+        gives("*", "0", LEAST, "0");
     }
 
-    private static void gives(Trial trial, String primitive, String one, String other, String result) {
+    private static void gives(String primitive, String one, String other, String result) {
+        Trial trial = new Trial(60);
         trial.gives("(" + primitive + " " + one + " " + other + ")", result);
         // A wrapped result is the number itself, not another that looks like it.
         trial.gives("(eq? (" + primitive + " " + one + " " + other + ") " + result + ")", "t");
@@ -280,15 +279,17 @@ public final class StepBoundaryTest {
 
     private static void branches() {
         about("IF: EVAL of the first of A, or, if the value is NIL, of the second (RETURN NIL, if there is none), in B.");
-        Trial trial = new Trial(200);
         String[] yes = {"t", "0", "-1", "'x", "'(())", "'(nil)", "car", "(lambda () nil)", "(list nil)", "(eq? 1 1)", "'nill"};
         for (String value : yes) {
-            trial.gives("(if " + value + " 1 2)", "1").gives("(if " + value + " 1)", "1").gives("(if " + value + " () 2)", "()");
+            Trial each = new Trial(200);
+            each.gives("(if " + value + " 1 2)", "1").gives("(if " + value + " 1)", "1").gives("(if " + value + " () 2)", "()");
         }
         String[] no = {"()", "nil", "'()", "'nil", "(list)", "(cdr '(1))", "(eq? 1 2)", "(if nil 1)"};
         for (String value : no) {
-            trial.gives("(if " + value + " 1 2)", "2").gives("(if " + value + " 1)", "()").gives("(if " + value + " 1 ())", "()");
+            Trial each = new Trial(200);
+            each.gives("(if " + value + " 1 2)", "2").gives("(if " + value + " 1)", "()").gives("(if " + value + " 1 ())", "()");
         }
+        Trial trial = new Trial(200);
         // The other branch is not evaluated, and the one that is has the environment of the whole.
         trial.gives("(if t 1 undef)", "1").gives("(if nil undef 2)", "2").gives("(if nil undef)", "()");
         trial.gives("((lambda (x) (if ((lambda (x) x) nil) 1 x)) 7)", "7").gives("((lambda (x) (if ((lambda (x) x) t) x)) 7)", "7");
@@ -300,6 +301,7 @@ public final class StepBoundaryTest {
         trial.gives("(define x 1)", "x").gives("x ", "1").gives("(define x 2)", "x").gives("x ", "2");
         trial.gives("((lambda (x) (list (define x 3) x)) 9)", "(x 9)").gives("x ", "3").gives("(define t nil)", "t").gives("t ", "()");
         trial.gives("(define if 5)", "if").gives("if ", "5").gives("(define car cdr)", "car").gives("(car '(1 2))", "(2)");
+        trial.gives("(define + 5)", "+").gives("+ ", "5").gives("(set! + -)", "-").gives("(+ 3 1)", "2");
         // The value that fails defines nothing.
         trial.fails("(define y undef)", CellLisp.UNBOUND).fails("y ", CellLisp.UNBOUND);
         trial.fails("(define x undef)", CellLisp.UNBOUND).gives("x ", "3");
@@ -403,15 +405,16 @@ public final class StepBoundaryTest {
 
     private static void kindsOfPrimitives() {
         about(PRIMITIVES);
-        Trial trial = new Trial(200);
         String[] noNumbers = {"()", "'x", "t", "'(1)", "car", "(lambda () 1)"};
         String[] numeric = {"+", "-", "*", "<"};
         for (String primitive : numeric) {
             for (String no : noNumbers) {
-                trial.fails("(" + primitive + " 1 " + no + ")", CellLisp.TYPE).fails("(" + primitive + " " + no + " 1)", CellLisp.TYPE);
-                trial.fails("(" + primitive + " " + no + " " + no + ")", CellLisp.TYPE);
+                Trial each = new Trial(200);
+                each.fails("(" + primitive + " 1 " + no + ")", CellLisp.TYPE).fails("(" + primitive + " " + no + " 1)", CellLisp.TYPE);
+                each.fails("(" + primitive + " " + no + " " + no + ")", CellLisp.TYPE);
             }
         }
+        Trial trial = new Trial(200);
         String[] noPairs = {"()", "nil", "'x", "0", "1", "car", "(lambda () 1)"};
         for (String no : noPairs) {
             trial.fails("(car " + no + ")", CellLisp.TYPE).fails("(cdr " + no + ")", CellLisp.TYPE).gives("(atom? " + no + ")", "t");
@@ -422,14 +425,15 @@ public final class StepBoundaryTest {
 
     private static void comparisons() {
         about("< of two: the symbol t, or NIL");
-        Trial trial = new Trial(200);
         String[] rising = {LEAST, "-268435455", "-2", "-1", "0", "1", "2", "268435454", MOST};
         for (int i = 0; i < rising.length; i++) {
+            Trial each = new Trial(200);
             for (int j = 0; j < rising.length; j++) {
-                trial.gives("(< " + rising[i] + " " + rising[j] + ")", i < j ? "t" : "()");
+                each.gives("(< " + rising[i] + " " + rising[j] + ")", i < j ? "t" : "()");
             }
         }
         // The symbol, whatever its global value is.
+        Trial trial = new Trial(200);
         trial.gives("(define t 5)", "t").gives("(< 1 2)", "t").gives("(eq? 1 1)", "t").gives("(atom? 1)", "t");
         trial.gives("(eq? (< 1 2) 't)", "t").gives("(eq? (< 1 2) t)", "()");
     }
@@ -437,17 +441,23 @@ public final class StepBoundaryTest {
     private static void sameValues() {
         about("eq? of two values (the same number, symbol, primitive, NIL, or one and the same pair or closure) and atom? "
                 + "(no pair): t or NIL");
-        Trial trial = new Trial(200).gives("(define p '(1))", "p").gives("(define q '(1))", "q");
-        trial.gives("(define f (lambda () 1))", "f").gives("(define g (lambda () 1))", "g");
         String[] values = {"0", "1", "-1", MOST, LEAST, "'x", "'y", "t", "'car", "car", "cdr", "()", "p", "q", "f", "g"};
         for (int i = 0; i < values.length; i++) {
+            Trial each = withPairsAndClosures();
             for (int j = 0; j < values.length; j++) {
-                trial.gives("(eq? " + values[i] + " " + values[j] + ")", i == j ? "t" : "()");
+                each.gives("(eq? " + values[i] + " " + values[j] + ")", i == j ? "t" : "()");
             }
         }
+        Trial trial = withPairsAndClosures();
         trial.gives("(eq? (list 1) (list 1))", "()").gives("(eq? (cdr (cons 1 p)) p)", "t").gives("(eq? (cons 1 2) (cons 1 2))", "()");
         trial.gives("(eq? nil (list))", "t").gives("(eq? 't (eq? 1 1))", "t").gives("(eq? " + MOST + " -268435457)", "t");
         trial.gives("((lambda (x y) (eq? x y)) p p)", "t").gives("((lambda (x) (eq? x f)) f)", "t");
+    }
+
+    /** Two of each that look the same. */
+    private static Trial withPairsAndClosures() {
+        Trial trial = new Trial(200).gives("(define p '(1))", "p").gives("(define q '(1))", "q");
+        return trial.gives("(define f (lambda () 1))", "f").gives("(define g (lambda () 1))", "g");
     }
 
     private static void listsOfAnyNumber() {

@@ -59,7 +59,8 @@ final class Trial {
     /** Takes what waits. */
     String taken() {
         StringBuilder taken = new StringBuilder();
-        for (int i = 0; i < lisp.outSize(); i++) {
+        int size = lisp.outSize();
+        for (int i = 0; i < size; i++) {
             taken.append((char) lisp.out(i));
         }
         lisp.clearOut();
