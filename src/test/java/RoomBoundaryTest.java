@@ -3,6 +3,8 @@ public final class RoomBoundaryTest {
     public static void main(String[] args) {
         cellsOfValues();
         cellsInUse();
+        cellsInUseWhileAValueGoesBack();
+        cellsInUseByFrames();
         cellsInUseByEachGlobal();
         cellsInUseThatAreShared();
         readingAsks();
@@ -89,6 +91,30 @@ public final class RoomBoundaryTest {
         // f: 3 cells, its body 5 pairs; its environment 2 pairs, and y's list.
         String f = "(define f ((lambda (y) (lambda () (if (car y) 5))) '(1)))";
         traces(f, "(f) ", 21, 19, 19, 19, 19, 19, 19, 21, 21, 19, 19, 19, 19);
+    }
+
+    private static void cellsInUseWhileAValueGoesBack() {
+        Trial.about("Promise 7 (Terms)", "(The environment stays what it was while MODE is RETURN.)");
+        // What car has given goes back in the 11th step, of which the environment holds x's binding and (1).
+        traces("", "((lambda (x) (car x)) '(1)) ", 22, 20, 17, 17, 13, 10, 8, 8, 8, 8, 6, 0);
+        // IF has no second branch: behind the 9th step, x's binding is in use still.
+        traces("", "(if ((lambda (x) nil) 5) 1) ", 18, 14, 12, 9, 9, 9, 6, 6, 4, 0);
+        // An IF that has one goes on in its own environment, which is NIL.
+        traces("", "(if ((lambda (x) nil) 5) 1 2) ", 20, 16, 14, 11, 11, 11, 8, 8, 0, 0, 0);
+        // So does what DEFINE and SET give back: of both, x's binding stays up to the last step.
+        traces("", "(define a ((lambda (x) 1) 5)) ", 18, 12, 10, 7, 7, 7, 4, 4, 4, 0);
+        traces("", "(set! t ((lambda (x) 1) 5)) ", 18, 12, 10, 7, 7, 7, 4, 4, 4, 0);
+    }
+
+    private static void cellsInUseByFrames() {
+        Trial.about("Promise 7 (Terms)",
+                "FRAMES (at most 30; each has a kind and three values A, B, C; what is not named is NIL)");
+        // A frame DEFINE has no environment, so x's binding and (1 2) go with the 10th step, where k's body begins.
+        traces("(define k (lambda () 5))", "((lambda (x) (define a (k))) '(1 2)) ",
+                31, 29, 26, 26, 22, 19, 13, 11, 11, 3, 3, 3, 3);
+        // A frame SET has one: they stay up to the 12th step, in which the frame goes.
+        traces("(define k (lambda () 5))", "((lambda (x) (set! t (k))) '(1 2)) ",
+                31, 29, 26, 26, 22, 19, 13, 11, 11, 11, 11, 3, 3);
     }
 
     private static void cellsInUseByEachGlobal() {
