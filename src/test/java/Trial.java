@@ -10,6 +10,25 @@ final class Trial {
     private static int sentences = 0;
     private static String about = "";
 
+    /** A call that does not end is to fail the test, not to hold it up. */
+    private static final long MOST_SECONDS = 300;
+
+    static {
+        Thread watch = new Thread(Trial::endLate);
+        watch.setDaemon(true);
+        watch.start();
+    }
+
+    private static void endLate() {
+        try {
+            Thread.sleep(1000 * MOST_SECONDS);
+        } catch (InterruptedException ended) {
+            return;
+        }
+        System.out.println(about + "a call has not ended");
+        Runtime.getRuntime().halt(1);
+    }
+
     final CellLisp lisp;
 
     Trial(int size) {
