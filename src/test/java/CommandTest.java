@@ -72,15 +72,13 @@ public final class CommandTest {
     private static void failsWithABrokenProject(String command) throws IOException, InterruptedException {
         few(command).change(CLASS, "LIMIT = 120", "LIMIT = 119").fails("the class breaks a promise");
         few(command).write(CLASS, "no class").fails("the class does not compile");
-        few(command).write(TESTS + "BadTest.java", program("BadTest", 1)).fails("a test of the project fails");
+        few(command).write(TESTS + "BadTest.java", failing("BadTest")).fails("a test of the project fails");
         few(command).write(TESTS + "BadTest.java", "no test").fails("a test of the project does not compile");
-        few(command).write(TESTS + "GoodTest.java", program("GoodTest", 0)).passes("a good test comes to it");
     }
 
     private static void failsWithoutItsSharedTests(String command) throws IOException, InterruptedException {
-        few(command).write(SHARED_TESTS + "Bad.java", program("Bad", 1)).fails("a shared test fails");
+        few(command).write(SHARED_TESTS + "Bad.java", failing("Bad")).fails("a shared test fails");
         few(command).write(SHARED_TESTS + "Bad.java", "no test").fails("a shared test does not compile");
-        few(command).write(SHARED_TESTS + "Good.java", program("Good", 0)).passes("a good shared test comes to it");
         CommandTest without = few(command);
         for (Path path : without.files(SHARED_TESTS)) {
             Files.delete(path);
@@ -88,9 +86,9 @@ public final class CommandTest {
         without.fails("no shared test is there");
     }
 
-    private static String program(String name, int code) {
+    private static String failing(String name) {
         return "public final class " + name + " {\n    public static void main(String[] args) {\n"
-                + "        System.exit(" + code + ");\n    }\n}\n";
+                + "        System.exit(1);\n    }\n}\n";
     }
 
     private List<Path> files(String name) throws IOException {
