@@ -1,6 +1,7 @@
 import java.io.IOException;
 import java.io.UncheckedIOException;
 import java.nio.charset.StandardCharsets;
+import java.nio.file.FileVisitOption;
 import java.nio.file.Files;
 import java.nio.file.Path;
 import java.util.Comparator;
@@ -22,9 +23,9 @@ final class Shell {
         return new Result(process.waitFor(), printed);
     }
 
-    /** Only the contents, as the originals may be read-only. */
+    /** Only the contents, as the originals may be read-only, or links to what lies elsewhere. */
     static void copyContents(Path from, Path to) throws IOException {
-        try (Stream<Path> all = Files.walk(from)) {
+        try (Stream<Path> all = Files.walk(from, FileVisitOption.FOLLOW_LINKS)) {
             for (Path path : all.toList()) {
                 Path copy = to.resolve(from.relativize(path).toString());
                 if (Files.isDirectory(path)) {
